@@ -47,20 +47,16 @@ public final class LastAsked {
     private static final int NOT_SO = 5;
     private static final int THERE_IS_NONE = 6;
 
-    private final byte[] tape = new byte[TAPE];
-    private int fed = 0;
+    private final Reader tape = new Reader();
     private final City told = new City();
-    private final City draft = new City();
-    private final Reader reader = new Reader(tape, draft);
     private final State now = new State();
     private final State then = new State();
     private final Past past = new Past();
     private final Wills wills = new Wills();
     private final Walks walks = new Walks();
-    private final Fits guesses = new Fits(told);
+    private final Fits guesses = new Fits();
     private int refusal = FINE;
     private int lastFault = 0;
-    private int lastPlace = 0;
 
     public LastAsked() {
     }
@@ -68,28 +64,26 @@ public final class LastAsked {
     // ---- the city
 
     public int feed(int a, int b, int c, int d, int e) {
-        if (fed + FEED > TAPE) {
+        if (tape.fed + FEED > TAPE) {
             return NONE;
         }
-        append(a);
-        append(b);
-        append(c);
-        append(d);
-        append(e);
-        return fed;
+        tape.append(a);
+        tape.append(b);
+        tape.append(c);
+        tape.append(d);
+        tape.append(e);
+        return tape.fed;
     }
 
     public int city(int n) {
-        if (refused(n < 0 || n > fed ? A_NUMBER : FINE)) {
+        if (refused(n < 0 || n > tape.fed ? A_NUMBER : FINE)) {
             return NONE;
         }
-        fed = 0;
-        lastFault = reader.readCity(n);
-        lastPlace = reader.place;
+        lastFault = tape.readCity(n);
         if (refused(lastFault != 0 ? A_FAULT : FINE)) {
             return NONE;
         }
-        told.copy(draft);
+        told.copy(tape.city);
         now.begin(told);
         past.forget();
         return told.people;
@@ -100,7 +94,7 @@ public final class LastAsked {
     }
 
     public int where() {
-        return refusal == A_FAULT ? lastPlace : NONE;
+        return refusal == A_FAULT ? tape.place : NONE;
     }
 
     // ---- now
@@ -349,16 +343,14 @@ public final class LastAsked {
         if (refused(isCity() ? FINE : NONE_SUCH)) {
             return NONE;
         }
-        guesses.open();
-        return guesses.countAll();
+        return guesses.countAll(told);
     }
 
     public int fitAt(int i, int k) {
         if (refused(isCity() && i >= 0 && k >= 0 && k < told.heards ? FINE : NONE_SUCH)) {
             return NONE;
         }
-        guesses.open();
-        int code = guesses.find(i);
+        int code = guesses.find(told, i);
         if (refused(code == NONE ? NONE_SUCH : FINE)) {
             return NONE;
         }
@@ -369,24 +361,21 @@ public final class LastAsked {
         if (refused(areTwo(p, of) ? FINE : NONE_SUCH)) {
             return NONE;
         }
-        guesses.open();
-        return guesses.countHeir(p, of);
+        return guesses.countHeir(told, p, of);
     }
 
     public int look() {
         if (refused(isCity() ? FINE : NONE_SUCH)) {
             return NONE;
         }
-        guesses.open();
-        return guesses.whichToLookAt();
+        return guesses.whichToLookAt(told);
     }
 
     public int lookLeaves() {
         if (refused(isCity() ? FINE : NONE_SUCH)) {
             return NONE;
         }
-        guesses.open();
-        int which = guesses.whichToLookAt();
+        int which = guesses.whichToLookAt(told);
         return which == NOBODY ? NOBODY : guesses.leftAtMost(which);
     }
 
@@ -565,7 +554,7 @@ public final class LastAsked {
             case 11:
                 return past.images;
             case 12:
-                return fed;
+                return tape.fed;
             default:
                 return NONE;
         }
@@ -629,13 +618,6 @@ public final class LastAsked {
     }
 
     // ---- who asks, who has
-
-    private void append(int number) {
-        for (int shift = 24; shift >= 0; shift -= 8) {
-            tape[fed] = (byte) (number >> shift);
-            fed++;
-        }
-    }
 
     private static boolean in(int set, int p) {
         return p >= 0 && p < PEOPLE && (set >> p & 1) == 1;
@@ -786,7 +768,7 @@ public final class LastAsked {
         int best = 0;
         long most = -1;
         for (int row = 0; row < rows; row++) {
-            long mean = canAskRow(can, row) ? meanByRow(p, row) : -1;
+            long mean = mayBeFirst(can, row) ? meanByRow(p, row) : -1;
             if (mean > most) {
                 best = row;
                 most = mean;
@@ -795,12 +777,15 @@ public final class LastAsked {
         return best;
     }
 
-    private static boolean canAskRow(int can, int row) {
+    /** The order of one's asks doesn't change his mean, so of like rows the one with rising digits is the first. */
+    private static boolean mayBeFirst(int can, int row) {
+        int behind = 9;
         for (int left = row; left > 0; left /= 10) {
             int digit = left % 10;
-            if (digit != 0 && !in(can, digit - 1)) {
+            if (digit > behind || digit != 0 && !in(can, digit - 1)) {
                 return false;
             }
+            behind = digit;
         }
         return true;
     }
@@ -1147,7 +1132,6 @@ public final class LastAsked {
 
     /** FITS: each choice of hours for the heard ones has a code, the first one's hour counting most. */
     private static final class Fits {
-        private final City city;
         private int codes = 1;
         private final int[] first = new int[HEARD];
         private final int[] span = new int[HEARD];
@@ -1155,12 +1139,7 @@ public final class LastAsked {
         private final int[] register = new int[PAIRS];
         private final int[] tally = new int[HEARD * SPAN];
 
-        Fits(City of) {
-            city = of;
-        }
-
-        /** The CITY may be another one by now. */
-        void open() {
+        private void open(City city) {
             codes = 1;
             System.arraycopy(city.register, 0, register, 0, PAIRS);
             for (int k = HEARD - 1; k >= 0; k--) {
@@ -1172,6 +1151,7 @@ public final class LastAsked {
             }
         }
 
+        /** By a code of the CITY seen latest. */
         int hourBy(int code, int k) {
             if (k < 0 || k >= HEARD || weight[k] <= 0 || span[k] <= 0) {
                 return NONE;
@@ -1179,7 +1159,7 @@ public final class LastAsked {
             return first[k] + code / weight[k] % span[k];
         }
 
-        private boolean holds(int code) {
+        private boolean holds(City city, int code) {
             for (int k = 0; k < city.heards; k++) {
                 register[city.heardPair[k]] = hourBy(code, k);
             }
@@ -1192,10 +1172,11 @@ public final class LastAsked {
             return true;
         }
 
-        int countAll() {
+        int countAll(City city) {
+            open(city);
             int count = 0;
             for (int code = 0; code < codes; code++) {
-                if (holds(code)) {
+                if (holds(city, code)) {
                     count++;
                 }
             }
@@ -1203,10 +1184,11 @@ public final class LastAsked {
         }
 
         /** The code of the i-th; NONE if there aren't so many. */
-        int find(int i) {
+        int find(City city, int i) {
+            open(city);
             int left = i;
             for (int code = 0; code < codes; code++) {
-                if (holds(code)) {
+                if (holds(city, code)) {
                     if (left == 0) {
                         return code;
                     }
@@ -1216,10 +1198,11 @@ public final class LastAsked {
             return NONE;
         }
 
-        int countHeir(int p, int of) {
+        int countHeir(City city, int p, int of) {
+            open(city);
             int count = 0;
             for (int code = 0; code < codes; code++) {
-                if (holds(code) && Wills.latest(register, city.everybody(), of) == p) {
+                if (holds(city, code) && Wills.latest(register, city.everybody(), of) == p) {
                     count++;
                 }
             }
@@ -1227,8 +1210,9 @@ public final class LastAsked {
         }
 
         /** LOOK; the tally is left for leftAtMost. */
-        int whichToLookAt() {
-            if (countByHours() == 0) {
+        int whichToLookAt(City city) {
+            open(city);
+            if (countByHours(city) == 0) {
                 return NOBODY;
             }
             int which = NOBODY;
@@ -1243,13 +1227,13 @@ public final class LastAsked {
             return which;
         }
 
-        private int countByHours() {
+        private int countByHours(City city) {
             int count = 0;
             for (int i = 0; i < HEARD * SPAN; i++) {
                 tally[i] = 0;
             }
             for (int code = 0; code < codes; code++) {
-                if (holds(code)) {
+                if (holds(city, code)) {
                     count++;
                     for (int k = 0; k < city.heards; k++) {
                         tally[k * SPAN + hourBy(code, k) - first[k]]++;
@@ -1325,7 +1309,7 @@ public final class LastAsked {
         }
     }
 
-    /** Reads the text of a CITY from left to right and stops at the first FAULT. */
+    /** THE TAPE, and who reads the text of a CITY on it from left to right and stops at the first FAULT. */
     private static final class Reader {
         private static final int END = 0;
         private static final int WORD = 1;
@@ -1354,10 +1338,11 @@ public final class LastAsked {
         private static final long WALLED_WORD = 0x77616C6C6564L;
         private static final long DOCTOR_WORD = 0x646F63746F72L;
 
+        int fed = 0;
         int place = 0;
+        final City city = new City();
         private int found = 0;
-        private final byte[] text;
-        private final City city;
+        private final byte[] text = new byte[TAPE];
         private int length = 0;
         private int sort = END;
         private int start = 0;
@@ -1367,14 +1352,18 @@ public final class LastAsked {
         private boolean begun = false;
         private final long[] names = new long[PEOPLE];
 
-        Reader(byte[] bytes, City into) {
-            text = bytes;
-            city = into;
+        /** The caller has seen that there is room. */
+        void append(int number) {
+            for (int shift = 24; shift >= 0 && fed < TAPE; shift -= 8) {
+                text[fed] = (byte) (number >> shift);
+                fed++;
+            }
         }
 
-        /** The FAULT of the first n bytes, or 0; its place is kept. */
+        /** The FAULT of the first n bytes, or 0; its place is kept, and the CITY as far as it was read. */
         int readCity(int n) {
-            length = Math.min(n, text.length);
+            length = Math.min(n, fed);
+            fed = 0;
             city.clear();
             end = 0;
             found = 0;

@@ -165,6 +165,10 @@ public final class ActsTest {
         due.is("trouble(): of the latest that may be refused", x.trouble(), 1);
         x.die(3);
         due.is("trouble()", x.trouble(), 0);
+        x.die(1);
+        due.is("led(0) of those who live", x.led(0), 0);
+        due.is("led(2)", x.led(2), 4);
+        x.undo();
         x.die(0);
         x.die(2);
         due.is("led(0) of those who live", x.led(0), 1);

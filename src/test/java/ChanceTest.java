@@ -45,6 +45,8 @@ public final class ChanceTest {
         // 0.7 * (10 + 20 * 0.07); 0.3 * 0.07 * 30
         due.fraction("mean(0)", x.mean(0, false), x.mean(0, true), 399, 50);
         due.fraction("catMean", x.catMean(false), x.catMean(true), 63, 100);
+        due.fraction("odds(0, 10)", x.odds(0, 10, false), x.odds(0, 10, true), 7, 10);
+        due.fraction("odds(0, 1)", x.odds(0, 1, false), x.odds(0, 1, true), 7, 10);
         due.fraction("odds(0, 30)", x.odds(0, 30, false), x.odds(0, 30, true), 49, 1000);
         due.fraction("passes(1, 0)", x.passes(1, 0, false), x.passes(1, 0, true), 49, 1000);
         StringBuilder six = new StringBuilder("city hour 9 gives 0");
@@ -95,6 +97,7 @@ public final class ChanceTest {
         due.answered(x, "tour(0, 0)", x.tour(0, 0), 0);
         due.answered(x, "tourHours(0, 0)", x.tourHours(0, 0), 0);
         due.answered(x, "tour(0, 1)", x.tour(0, 1), 2);
+        due.answered(x, "tour(0, 12)", x.tour(0, 12), 2);
         due.answered(x, "tourHours(0, 12)", x.tourHours(0, 12), 1);
         due.refused(x, "tour(0, 13)", x.tour(0, 13), 2);
         due.refused(x, "tour(0, -1)", x.tour(0, -1), 2);
@@ -122,6 +125,13 @@ public final class ChanceTest {
             due.is("tour(0, " + n + ")", y.tour(0, n), sets[n]);
             due.is("tourHours(0, " + n + ")", y.tourHours(0, n), hours[n]);
         }
+        due.is("tour(3, 2)", y.tour(3, 2), 2);
+        y.ask(0, 1);
+        due.is("tour(3, 2): a has more now", y.tour(3, 2), 1);
+        due.is("tour(3, 4)", y.tour(3, 4), 5);
+        due.is("tour(3, 12): b has nothing now", y.tour(3, 12), 5);
+        due.is("tourHours(3, 12)", y.tourHours(3, 12), 4);
+        y.undo();
         y.die(4);
         due.is("tour(0, 4) by a dead one's house", y.tour(0, 4), 6);
         y.die(1);
@@ -152,6 +162,9 @@ public final class ChanceTest {
         due.is("rivals(1, 0): of like hours the first", y.rivals(1, 0), 8);
         due.is("rivals(2, 0): of like hours the first", y.rivals(2, 0), 10);
         due.is("toAsk(3): the first such", y.toAsk(3), 1);
+        y.ask(1, 3);
+        y.ask(0, 3);
+        due.is("rivals(1, 3)", y.rivals(1, 3), 1);
         LastAsked z = new LastAsked();
         due.refused(z, "best(0, 1)", z.best(0, 1), 1);
         due.refused(z, "bestMean(0, 1)", z.bestMean(0, 1, true), 1);

@@ -125,6 +125,13 @@ public final class CityTest {
         for (String kept : new String[] {"city", "person", "near", "asked", "heard", "went", "cat"}) {
             due.fault(HEAD + ";person " + kept, 1, 27);
         }
+        due.fault("city hour ?", 1, 10);
+        due.fault("city hour 9 gives 'x", 1, 18);
+        due.fault("city hour 9{", 1, 11);
+        due.fault("city hour 9`", 1, 11);
+        due.fault("city hour :9", 1, 10);
+        due.fault("city hour /9", 1, 10);
+        due.city(HEAD + ";person az plain has 5 dies 5;person za plain has 5 dies 5;went za az", 2);
         due.city(HEAD + ";person hour plain has 5 dies 5;person plain plain has 5 dies 5;asked hour plain at 3", 2);
         due.city("  city hour 09gives 001;person abcdefgh plain has 5dies 5   ", 1);
     }
@@ -171,6 +178,36 @@ public final class CityTest {
         due.city(FOUR + ";near a c;asked a c at 9;asked b d at 0;heard b a at 9 give 3", 4);
     }
 
+    /** The first FAULT from the left is told, whatever comes behind it. */
+    private static void firstFault(Due due) {
+        due.fault("city hour 100 gives 10;foo", 4, 10);
+        due.fault("city hour x;person a", 1, 10);
+        due.fault("city hour 9 gives 10;foo;person a", 4, 18);
+        due.fault("foo;person a", 1, 0);
+        due.fault("person a;foo", 6, 0);
+        due.fault(HEAD + ";person cat;person a poor", 1, 27);
+        due.fault(HEAD + ";person a poor;foo", 1, 29);
+        due.fault(HEAD + ";person a plain has 100;foo", 4, 39);
+        due.fault(HEAD + ";person a plain has 5 dies 101;foo", 4, 46);
+        due.fault(FOUR + ";person a;foo", 3, 140);
+        due.fault(FOUR + ";near x;foo", 2, 138);
+        due.fault(FOUR + ";near a x;foo", 2, 140);
+        due.fault(FOUR + ";near a a;foo", 3, 140);
+        due.fault(FOUR + ";asked d;foo", 7, 139);
+        due.fault(FOUR + ";asked x;foo", 2, 139);
+        due.fault(FOUR + ";asked a x;foo", 2, 141);
+        due.fault(FOUR + ";asked a b;foo", 7, 141);
+        due.fault(FOUR + ";asked a d at 10;foo", 4, 146);
+        due.fault(FOUR + ";heard a d at 10;foo", 4, 146);
+        due.fault(FOUR + ";heard a d at 9 give 4;foo", 4, 153);
+        due.fault(FOUR + ";went x;foo", 2, 138);
+        due.fault(FOUR + ";went a x;foo", 2, 140);
+        due.fault(FOUR + ";went a a;foo", 3, 140);
+        due.fault(FOUR + ";went a b;went a;foo", 3, 147);
+        due.fault(FOUR + ";city;foo", 3, 133);
+        due.fault(FOUR + " foo;near x", 1, 133);
+    }
+
     private static void rooms(Due due) {
         due.city("city hour 99 gives 9;person a plain has 99 dies 100", 1);
         String six = FIVE + ";person f plain has 6 dies 0";
@@ -199,6 +236,7 @@ public final class CityTest {
         cityAgain(due);
         form(due);
         otherFaults(due);
+        firstFault(due);
         rooms(due);
         due.end();
     }

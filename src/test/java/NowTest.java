@@ -153,6 +153,9 @@ public final class NowTest {
         due.is("rounds(): who only leads into one isn't in it", y.rounds(), 3);
         y.die(1);
         y.die(2);
+        y.ask(3, 0);
+        due.is("worthiest() has the first one, too", y.worthiest(), 0);
+        y.undo();
         due.answered(y, "worthiest() of none", y.worthiest(), -2);
         due.is("rounds() of none", y.rounds(), 0);
         LastAsked z = new LastAsked();
@@ -166,6 +169,10 @@ public final class NowTest {
         chain.append(";asked b a at 1;asked c b at 1;asked d c at 1;asked e d at 1;asked f e at 1");
         LastAsked six = due.city(chain.toString(), 6);
         due.is("plot(0, 5)", six.plot(0, 5), 31);
+        due.is("rounds() without one", six.rounds(), 0);
+        six.ask(0, 5);
+        due.is("rounds() of six", six.rounds(), 63);
+        six.undo();
         due.is("hasThen(5, 31)", six.hasThen(5, 31), 594);
         due.is("goesTo(0, 63)", six.goesTo(0, 63), -2);
         due.is("catThen(63)", six.catThen(63), 594);
