@@ -1,7 +1,7 @@
 import java.nio.charset.StandardCharsets;
 
 /** What the tests of this project share: feeding a text, and counting answers that are not as due. */
-final class Due {
+class Due {
     private int wrong = 0;
     private int right = 0;
 
