@@ -150,6 +150,8 @@ final class ChanceEdges {
         catMeanIs(due, due.city(NowEdges.ROUND, 6), 594, 1);
         // 0.99 and .. and 0.99 to the 6th
         catMeanIs(due, due.city(POOR_CHAIN, 6), 5793465209301L, TRILLION);
+        // a and b leave to each other, c to a: a quarter, a quarter, an eighth of 8
+        catMeanIs(due, due.city(HEAD + Edges.people(3, "plain", 8, 50) + ";asked a b at 1;asked b a at 1;asked a c at 1", 3), 5, 1);
         LastAsked x = due.city(two(10, 50, 99, 50), 2);
         x.die(1);
         due.is("cat()", x.cat(), 99);
@@ -170,6 +172,10 @@ final class ChanceEdges {
         due.answered(x, "best(0, 2), the greatest", x.best(0, 2), 66);
         due.answered(x, "best(0, 3), the greatest", x.best(0, 3), 666);
         due.answered(x, "best(5, 3), the least", x.best(5, 3), 0);
+        LastAsked first = due.city(HEAD + ";person a plain has 99 dies 0;person b plain has 0 dies 0", 2);
+        due.answered(first, "best(1, 1): the first one", first.best(1, 1), 1);
+        due.answered(first, "best(1, 2): two digits, no more", first.best(1, 2), 11);
+        due.answered(first, "best(1, 3): three digits, no more", first.best(1, 3), 111);
         due.is("best(0, 3) of one person", due.city(ALONE, 1).best(0, 3), 0);
         due.is("size(10): no ACT", x.size(10), 0);
         due.is("size(0): no hour", x.size(0), 9);

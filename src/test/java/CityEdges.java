@@ -303,6 +303,8 @@ final class CityEdges {
         due.city(HEAD + " ; person a plain has 5 dies 5", 1);
         spoilt(due, HEAD + ";^;person a plain has 5 dies 5", 1);
         spoilt(due, "^;" + ONE, 1);
+        spoilt(due, ONE + " ^abcdefghi person b plain has 5 dies 5", 1);
+        spoilt(due, ONE + " ^1234 person b plain has 5 dies 5", 1);
         spoilt(due, ONE + ";^", 1);
         spoilt(due, ONE + ";  ^", 1);
         spoilt(due, HEAD + "^:person a plain has 5 dies 5", 1);
