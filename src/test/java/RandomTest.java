@@ -266,8 +266,8 @@ public final class RandomTest {
     }
 
     public static void main(String[] args) throws ReflectiveOperationException {
-        RandomTest test = new RandomTest(20261118);
         int runs = args.length > 0 ? Integer.parseInt(args[0]) : RUNS;
+        RandomTest test = new RandomTest(args.length > 1 ? Long.parseLong(args[1]) : 20261118);
         for (int i = 0; i < runs && test.wrong <= 5; i++) {
             test.run(i);
         }
